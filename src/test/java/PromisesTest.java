@@ -480,6 +480,9 @@ public final class PromisesTest {
         C.due("16 how much", same.bestDay(0, 1), 5);
         ThrownHome last = Checks.laid("t9,0,3,0;n0,0,44,99;p4,0;");
         C.due("16 the last day", last.bestDay(0, 0), 40);
+        ThrownHome cheap = Checks.laid("t9,0,3,0;n0,0,10,20;p0,0;");
+        C.due("16 by the lowest price", cheap.bestDay(0, 0), 6);
+        C.due("16 by the lowest price", cheap.bestDay(0, 1), 1);
         ThrownHome none = Checks.laid("t9,0,3,0;n0,0,45,99;n0,0,0,3;n1,0,0,99;");
         C.due("16 never", none.bestDay(0, 0), NONE);
         C.due("16 never", none.bestDay(0, 1), NONE);
@@ -535,6 +538,8 @@ public final class PromisesTest {
         C.due("18 none meet", new ThrownHome().clear(), 0);
         C.due("18 one of two", Checks.laid("t5,0,1,2;t5,0,6,3;").clear(), 1);
         C.due("18 two of three", Checks.laid("r0,7;" + THREE_ALIKE).clear(), 3);
+        String seven = "t4,0,1,2;t4,0,2,2;t4,0,3,2;t4,0,4,2;t4,0,5,2;t4,0,6,2;t4,0,1,2;";
+        C.due("18 six of seven", Checks.laid(seven).clear(), 63);
         C.due("18 the one that two others meet", Checks.laid(ONE_LOST_EARLY).clear(), 2);
         // Without the first one the rock stands otherwise, and the two others are thrown apart or together.
         ThrownHome turned = Checks.laid("r0,60;t0,0,3,0;t1,3,3,0;t2,5,1,2;t2,5,1,2;");
