@@ -466,6 +466,34 @@ final class TextBoundsTest {
         C.due("nets", new ThrownHome().count(1), 1);
     }
 
+    static void term_laid_nothingOfTheOneBeforeIsLeft() {
+        // Behind seven throws and five nets one throw and one net: the others are no more, wherever they are looked for.
+        ThrownHome x = Checks.laid("t0,9,1,2;t0,8,1,2;t0,7,1,2;t0,6,1,2;t0,5,1,2;t0,4,1,2;t0,3,1,2;" + FIVE.replace(",0;", ",99;"));
+        C.due("seven", x.all(0) + x.all(1), 7);
+        C.due("the second one", x.stray(0, 8, 0), 2);
+        x.wipe();
+        Checks.tell(x, "t0,1,1,2;n9,0,0,99;");
+        C.due("lay", x.lay(), 1);
+        C.due("one is missed", x.all(1), 1);
+        C.due("none is caught by the nets before", x.all(0), 0);
+        C.due("one net", x.count(1), 1);
+        for (int place = 0; place < 24; place++) {
+            C.due("a stray to " + place, x.stray(0, place, 0), place == 1 ? 1 : 0);
+        }
+    }
+
+    static void term_laid_aTextThatIsNotLaidCountsForNothing() {
+        ThrownHome x = Checks.told("r9,1;p9,9;t5,5,1,2;t6,6,1,2;t7,7,1,2;n3,3,0,99;");
+        C.due("fault", x.fault(), NONE);
+        C.due("price", x.price(1), 8);
+        C.due("meeters", x.meeters(0, 0), 7);
+        C.due("stray", x.stray(3, 0, 2), 2);
+        C.due("stray", x.stray(0, 15, 6), 0);
+        C.due("nets", x.net(0, 1), 2);
+        C.due("stands", x.stand(18, 1, 0), 0);
+        C.due("year", x.year(0, 2), 18);
+    }
+
     static void term_bytes_areToldHighestFirst() {
         byte[] bytes = "t1,2,3,0".getBytes(StandardCharsets.ISO_8859_1);
         ThrownHome x = new ThrownHome();

@@ -60,12 +60,19 @@ final class Whole {
         return x;
     }
 
-    /** Some 300 calls, the last of which use up what can be undone, what is kept and what is told. */
+    /** Some 400 calls at most, the last of which use up what can be undone, what is kept and what is told. */
     static List<Long> seen(ThrownHome x) {
         List<Long> seen = new ArrayList<>();
         counts(seen, x);
+        // These ahead of fault and of what is tried out, so that nothing of these shows in them.
+        seen.add((long) x.price(0));
+        seen.add((long) x.price(1));
         int all = x.count(0);
         for (int i = 0; i < all; i++) {
+            int day = x.load(i, 0);
+            seen.add((long) x.meeters(i, 0));
+            seen.add((long) x.stray(0, x.load(i, 4), day));
+            seen.add((long) x.far(i, day + 1));
             for (int what = 4; what <= 8; what++) {
                 seen.add((long) x.load(i, what));
             }
@@ -75,8 +82,6 @@ final class Whole {
             seen.add((long) x.all(w));
         }
         seen.add((long) x.fault());
-        seen.add((long) x.price(0));
-        seen.add((long) x.price(1));
         told(seen, x, 7);
         for (long left = x.undo(); left != NO && seen.size() < 500; left = x.undo()) {
             seen.add(left);
