@@ -245,6 +245,16 @@ final class BestBoundsTest {
         C.due("lost on the day of the throw", atOnce.stray(0, 0, 5), 0);
     }
 
+    static void term_stray_allOfWhichItCanBe() {
+        // Two as far on their way TO one place would meet; so of those seen alike there is one at most, the others are lost.
+        ThrownHome alike = Checks.laid("r0,60;t0,0,2,2;t2,0,3,2;t6,0,6,2;t6,4,6,2;");
+        C.due("ahead of the day on which they meet", alike.stray(10, 0, 5), 1);
+        C.due("the second", alike.stray(9, 0, 5), 2);
+        C.due("lost by that day", alike.stray(12, 0, 6), 0);
+        C.due("the third, no more met by those", alike.stray(6, 0, 7), 4);
+        C.due("as far, TO another place", alike.stray(6, 4, 7), 8);
+    }
+
     static void term_stray_onItsWayToWhereItWasThrown() {
         ThrownHome x = Checks.laid("r0,60;t0,7,1,3;");
         C.due("a drifting one", x.stray(59, 7, 59), 1);
@@ -290,6 +300,17 @@ final class BestBoundsTest {
         meeters("r0,5;t3,0,4,2;t2,0,6,2;t2,0,2,2;", 2, 9, 1);
         // They don't turn the rock for it either: it goes to the same place.
         meeters("r0,5;t0,0,5,1;t2,0,2,0;t4,0,5,1;", 1, 9, 1);
+    }
+
+    static void term_meeters_ofAPlainOneMoreThrownToTheSamePlace() {
+        // Thrown ahead of it, the one more would turn the rock; it is met all the same, as it goes to the same place.
+        meeters("r0,12;t1,3,3,0;", 0, 8, 2);
+        meeters("r0,12;t1,3,3,3;", 0, 8, 2);
+        meeters("r0,12;t1,3,3,1;", 0, 8, 2);
+        ThrownHome x = new ThrownHome();
+        ThrownHome seven = Checks.laid("t1,3,3,0;t0,1,1,0;t0,2,1,0;t0,3,1,0;t0,4,1,0;t0,5,1,0;t1,6,1,0;");
+        C.due("behind seven, too", seven.meeters(0, 0), x.meeters(1, 0));
+        C.due("behind seven, too", seven.meeters(0, 1), x.meeters(1, 1));
     }
 
     static void term_meeters_theFirstByTheDayThenTheSpeed() {
@@ -340,6 +361,14 @@ final class BestBoundsTest {
         stand("t40,0,6,1;", 12, 63, 0, NONE);
         stand("t40,0,6,1;", 11, 63, 1, 1);
         stand("t40,0,6,1;", 13, 63, 4, 5);
+    }
+
+    static void term_stand_sevenThrowsAtMostAreOfTheText() {
+        // Eight by 1, and one behind the seven that are told.
+        stand("t0,0,1,2;", 17, 1, 7, 1);
+        stand("t0,0,1,2;", 16, 1, 8, 1);
+        stand("t0,0,1,2;t1,0,1,2;t2,0,1,2;t3,0,1,2;t4,0,1,2;t5,0,1,2;t6,0,1,2;", 23, 1, 1, 1);
+        stand("t0,0,1,0;t1,0,1,0;t2,0,1,0;t3,0,1,0;t4,0,1,0;t5,0,1,0;t6,0,1,0;", 18, 1, 23, 1);
     }
 
     static void term_stand_lowestSpeedOfTheFirstOfAWaySoShort() {
